@@ -431,14 +431,13 @@ public final class BoundaryTest {
         }
     }
 
-    private static void whatItIsThe512thCallIsAnsweredAfter511ThatThrow() {
+    private static void whatItIsCallsThatThrowAreAmongThe512() {
         Desk full = fullDesk();
-        String[] calls = {"addUser()", "close(6)", "addSet(0, 3, 1)"};
         RoleDesk x = full.made();
-        for (int i = full.calls.size(); i < 511; i++) {
-            new Call(calls[i % calls.length]).answer(x);
+        for (int i = full.calls.size() + 1; i < 512; i++) {
+            full.compare("call " + i, new Call("addUser()").answer(x), ILLEGAL_STATE);
         }
-        full.compare("the 512th call", new Call("deleteUser(5)").answer(x), "1");
+        full.compare("call 512", new Call("deleteUser(5)").answer(x), "1");
     }
 
     // ------------------------------------------------------------------ Terms: numbers
